@@ -21,6 +21,7 @@ public final class CampAshes {
     private static final int ONES = 20;
     private static final int WITHIN = 8;
     private static final int NAME_LETTERS = 7;
+    private static final int NUMBER_DIGITS = 3;
     private static final int KEPT_ACTS = 8;
     private static final int PLACES = 2;
     private static final int TAG_BYTES = 64;
@@ -512,7 +513,7 @@ public final class CampAshes {
         /** Tokens begin ahead of the most bytes alone, but the last of them is read whole. */
         void next() {
             int bound = Math.min(textLength, most);
-            while (place < bound && isBlank(text[place])) {
+            while (place < bound && (text[place] == ' ' || text[place] == '\n')) {
                 place++;
             }
             word = null;
@@ -524,34 +525,33 @@ public final class CampAshes {
                 return;
             }
             at = place;
-            if (isLetter(text[place]) || isDigit(text[place])) {
-                readRun();
-            } else {
+            int digits = readRun();
+            int run = place - at;
+            if (run == 0) {
                 readSign();
+            } else if (digits == 0 && run <= NAME_LETTERS) {
+                word = Word.spelt(letters);
+                sort = word == null ? NAME : WORD;
+            } else {
+                sort = digits == run && run <= NUMBER_DIGITS ? NUMBER : NO_TOKEN;
             }
         }
 
-        private void readRun() {
-            int letterCount = 0;
-            int digitCount = 0;
-            while (place < textLength && (isLetter(text[place]) || isDigit(text[place]))) {
-                if (isLetter(text[place])) {
-                    letters = letters * 32 + (text[place] - 'a' + 1);
-                    letterCount++;
+        /** How many digits are in the letters and digits that come next. */
+        private int readRun() {
+            int digits = 0;
+            for (; place < textLength; place++) {
+                int c = text[place];
+                if (c >= 'a' && c <= 'z') {
+                    letters = letters * 32 + (c - 'a' + 1);
+                } else if (c >= '0' && c <= '9') {
+                    value = value * 10 + (c - '0');
+                    digits++;
                 } else {
-                    value = value * 10 + (text[place] - '0');
-                    digitCount++;
+                    break;
                 }
-                place++;
             }
-            if (digitCount == 0 && letterCount <= NAME_LETTERS) {
-                word = Word.spelt(letters);
-                sort = word == null ? NAME : WORD;
-            } else if (letterCount == 0 && digitCount <= 3) {
-                sort = NUMBER;
-            } else {
-                sort = NO_TOKEN;
-            }
+            return digits;
         }
 
         private void readSign() {
@@ -559,18 +559,6 @@ public final class CampAshes {
             boolean known = value == ';' || value == '<' || value == '=' || value == '>' || value == '(' || value == ')';
             sort = known ? SIGN : NO_TOKEN;
             place++;
-        }
-
-        private static boolean isBlank(int c) {
-            return c == ' ' || c == '\n';
-        }
-
-        private static boolean isLetter(int c) {
-            return c >= 'a' && c <= 'z';
-        }
-
-        private static boolean isDigit(int c) {
-            return c >= '0' && c <= '9';
         }
 
         /** More bytes than there may be are never an end that is as told. */
@@ -616,19 +604,14 @@ public final class CampAshes {
             return number;
         }
 
-        /** The boy's number, or NONE behind a fault. */
-        int passBoy(Camp camp) {
-            return passNamed(sort == NAME ? camp.boyNamed(letters) : NONE);
-        }
-
-        /** The event's number, or NONE behind a fault. */
-        int passEvent(Camp camp) {
-            return passNamed(sort == NAME ? camp.eventNamed(letters) : NONE);
-        }
-
-        private int passNamed(int number) {
+        /** The number by which a camp knows the name that comes, or NONE behind a fault. */
+        int passNamed(int number) {
+            if (sort != NAME) {
+                fail(CAN_NOT_COME);
+                return NONE;
+            }
             if (number == NONE) {
-                fail(sort == NAME ? BAD_NAME : CAN_NOT_COME);
+                fail(BAD_NAME);
                 return NONE;
             }
             next();
@@ -656,6 +639,7 @@ public final class CampAshes {
         int logCount;
         int turf;
         int wet;
+        /** What the text that is being read has told already, as bits. */
         private int takesTold;
         private int onceTold;
 
@@ -688,8 +672,6 @@ public final class CampAshes {
             logCount = other.logCount;
             turf = other.turf;
             wet = other.wet;
-            takesTold = other.takesTold;
-            onceTold = other.onceTold;
         }
 
         boolean hasBoy(int b) {
@@ -775,7 +757,7 @@ public final class CampAshes {
             }
             names[BOYS + eventCount] = tape.letters;
             tape.next();
-            int owner = tape.passBoy(this);
+            int owner = tape.passNamed(boyNamed(tape.letters));
             if (owner == NONE || !isKind(tape)) {
                 return false;
             }
@@ -1263,7 +1245,7 @@ public final class CampAshes {
         }
 
         private boolean readDeed(Tape tape, Camp camp) {
-            doers[lineCount] = tape.passBoy(camp);
+            doers[lineCount] = tape.passNamed(camp.boyNamed(tape.letters));
             if (tape.isWord(Word.TELLS)) {
                 acts[lineCount] = TELLS;
             } else if (tape.isWord(Word.LIES)) {
@@ -1274,7 +1256,7 @@ public final class CampAshes {
                 return tape.fail(CAN_NOT_COME);
             }
             tape.next();
-            events[lineCount] = tape.passEvent(camp);
+            events[lineCount] = tape.passNamed(camp.eventNamed(tape.letters));
             if (events[lineCount] == NONE) {
                 return false;
             }
@@ -1282,7 +1264,7 @@ public final class CampAshes {
         }
 
         private boolean readGift(Tape tape, Camp camp) {
-            others[lineCount] = tape.passBoy(camp);
+            others[lineCount] = tape.passNamed(camp.boyNamed(tape.letters));
             if (others[lineCount] == NONE) {
                 return false;
             }
@@ -1294,12 +1276,12 @@ public final class CampAshes {
         int judge(State state) {
             why = 0;
             linesDone = 0;
-            while (linesDone < lineCount && why == 0) {
-                int refused = liveLine(state, linesDone);
+            for (int line = 0; line < lineCount && why == 0; line++) {
+                int refused = liveLine(state, line);
                 if (refused == 0) {
                     linesDone++;
                 } else {
-                    why = acts[linesDone] + refused;
+                    why = acts[line] + refused;
                 }
             }
             judged = true;
@@ -1421,7 +1403,7 @@ public final class CampAshes {
                 return true;
             }
             if (first == Word.HAS || first == Word.HIS) {
-                int e = tape.passEvent(camp);
+                int e = tape.passNamed(camp.eventNamed(tape.letters));
                 addStep(first, 0, e);
                 return e != NONE;
             }
@@ -1434,9 +1416,12 @@ public final class CampAshes {
             }
             int sign = tape.value;
             tape.next();
-            int number = tape.passNumber(0, 999);
-            addStep(first, sign, number);
-            return number != NONE;
+            if (tape.sort != Tape.NUMBER) {
+                return tape.fail(CAN_NOT_COME);
+            }
+            addStep(first, sign, tape.value);
+            tape.next();
+            return true;
         }
 
         private static boolean beginsOne(Tape tape) {
@@ -1619,7 +1604,7 @@ public final class CampAshes {
             int possible = state.eventBits(b);
             int fewest = EVENTS + 1;
             int found = 0;
-            for (int set = 1; set < 1 << EVENTS; set++) {
+            for (int set = 1; set < 1 << camp.eventCount; set++) {
                 int size = Integer.bitCount(set);
                 if ((set & ~possible) == 0 && size < fewest && weightOf(camp, state, b, set) == n) {
                     fewest = size;

@@ -47,6 +47,12 @@ public final class AdviceTest {
         CampAshes cold = Check.camp("boy a 9;event e a joy 7;fire 0;");
         Check.due("cold", cold.best(), 0);
         row(cold);
+        CampAshes seven = Check.camp("boy a 1;boy b 1;boy c 1;boy d 1;boy e 1;boy f 1;boy g 1;event aa a joy 1;event bb b joy 2;"
+            + "event cc c joy 3;event dd d joy 4;event ee e joy 5;event ff f joy 6;event gg g joy 7;takes joy 2;fire 17;");
+        seven.tents(400);
+        // Heats 17 to 15 take 5, 14 to 11 take 4: the heavy three go ahead.
+        Check.due("seven", seven.best(), 1 + 2 + 3 + 4 + 5 + 5 + 5);
+        row(seven, 4, 5, 6, 0, 1, 2, 3);
         CampAshes bare = Check.camp("boy a 9;boy b 9;event e b joy 7;takes joy 0;fire 4;");
         Check.due("nothing is taken", bare.best(), 0);
         row(bare, 1);
@@ -111,6 +117,7 @@ public final class AdviceTest {
         CampAshes y = Check.camp(heavy.toString());
         Check.due("200", y.says(0, 200), 5);
         Check.due("the heavy ones", y.saying(), 31);
+        Check.due("what would make 220 is not asked for", y.says(0, 220), -1);
     }
 
     private static void tents() {

@@ -183,5 +183,14 @@ public final class CampTextTest {
         Check.due("no sentence", x.said(-1), -1);
         Check.due("nothing to undo", x.undo(), -1);
         Check.due("on him", x.on(0, 0), 9);
+        String once = "takes joy 1;fire 1;logs 1;turf 1;wet 2;";
+        Check.due("each once", Check.campOf(x, once), 5);
+        Check.due("each once in the next, too", Check.campOf(x, once), 5);
+        Check.due("and in the next", Check.campOf(x, "boy c 4;"), 1);
+        Check.due("without 'takes'", x.takes(3), 3 + 2);
+        Check.due("without 'fire'", x.now(1), 10);
+        Check.due("without 'logs'", x.now(2), 2);
+        Check.due("without 'turf'", x.count(2), 1);
+        Check.due("without 'wet'", x.count(3), 0);
     }
 }

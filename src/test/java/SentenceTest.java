@@ -107,7 +107,9 @@ public final class SentenceTest {
         CampAshes x = Check.camp(TEXT);
         Check.due("no sentence", x.said(-1), -1);
         Check.due("no sentence", x.said(0), -1);
-        x.give(0, 2, 1, 2);
+        x.give(0, 2, 1, 1);
+        says(x, "has dog", 0, 1);
+        x.give(0, 2, 1, 1);
         x.tell(0, 0);
         x.lie(1, 1);
         says(x, "over", 0, 2);
