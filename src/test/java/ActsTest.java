@@ -44,6 +44,8 @@ public final class ActsTest {
         Check.due("event(-1, 0)", x.event(-1, 0), -1);
         Check.due("takes(2)", x.takes(2), 5);
         Check.due("takes(3)", x.takes(3), 2);
+        Check.due("takes(0)", x.takes(0), 6);
+        Check.due("takes(4)", x.takes(4), -1);
         Check.due("takes(-1)", x.takes(-1), -1);
         Check.due("ashes(4)", x.ashes(4), -1);
         Check.due("now(3)", x.now(3), 0);

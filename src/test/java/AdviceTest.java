@@ -112,12 +112,17 @@ public final class AdviceTest {
         Check.due("his", x.saying(), 16);
         StringBuilder heavy = new StringBuilder("boy a 1;");
         for (int e = 0; e < 10; e++) {
-            heavy.append("event e").append((char) ('a' + e)).append(" a joy ").append(e < 5 ? 40 : 20).append(";");
+            heavy.append("event e").append((char) ('a' + e)).append(" a joy ").append(e < 5 ? 40 : e < 9 ? 20 : 1).append(";");
         }
         CampAshes y = Check.camp(heavy.toString());
         Check.due("200", y.says(0, 200), 5);
         Check.due("the heavy ones", y.saying(), 31);
-        Check.due("what would make 220 is not asked for", y.says(0, 220), -1);
+        Check.due("what would make 201 is not asked for", y.says(0, 201), -1);
+        CampAshes many = Check.camp(heavy.toString().replace("40", "9"));
+        Check.due("all ten", many.says(0, 5 * 9 + 4 * 20 + 1), 10);
+        Check.due("all ten, as bits", many.saying(), 1023);
+        Check.due("the one that weighs 1", many.says(0, 1), 1);
+        Check.due("the last", many.saying(), 512);
     }
 
     private static void tents() {

@@ -1,3 +1,5 @@
+import java.util.Arrays;
+
 /** Promises 4 and 5: camp and fault. */
 public final class CampTextTest {
     public static void main(String[] args) {
@@ -90,6 +92,10 @@ public final class CampTextTest {
             bad("boy " + word + " 3;", 1, 4);
             bad("boy a 1;event " + word + " a joy 1;", 1, 14);
             bad("boy a 1;event b " + word + " joy 1;", 1, 16);
+            if (!Arrays.asList("fear", "shame", "grief", "joy").contains(word)) {
+                bad("takes " + word + " 3;", 1, 6);
+                bad("boy a 1;event b a " + word + " 1;", 1, 18);
+            }
         }
         for (String word : new String[] {"boys", "events", "wept", "weeps", "of", "n", "kind", "name", "days", "a", "z"}) {
             good("boy " + word + " 3;", 1);
