@@ -212,7 +212,7 @@ public final class CampAshes {
     }
 
     public int spreadOf(int b) {
-        return advice.spreadKnown && camp.hasBoy(b) ? advice.gets[b] : NONE;
+        return b >= 0 && b < advice.getters ? advice.gets[b] : NONE;
     }
 
     public int says(int b, int n) {
@@ -1518,7 +1518,8 @@ public final class CampAshes {
         final int[] row = new int[BOYS];
         int rowLength;
         final int[] gets = new int[BOYS];
-        boolean spreadKnown;
+        /** The boys of the latest spread; the camp may have others by now. */
+        int getters;
         int sayingBits = NONE;
         private final int[] heaviest = new int[BOYS];
         private final int[] bySet = new int[SETS];
@@ -1596,7 +1597,7 @@ public final class CampAshes {
                     left -= gets[b];
                 }
             }
-            spreadKnown = true;
+            getters = camp.boyCount;
             return over;
         }
 

@@ -3,6 +3,7 @@ public final class AdviceTest {
     public static void main(String[] args) {
         best();
         spread();
+        spreadOfAnEarlierCamp();
         says();
         tents();
         laws();
@@ -87,6 +88,30 @@ public final class AdviceTest {
         CampAshes z = Check.camp("boy a 5;boy b 3;event e a joy 8;");
         Check.due("just so", z.spread(), 3);
         gets(z, 0, 3);
+    }
+
+    /** The boys are those of the spread, whoever is in the camp now. */
+    private static void spreadOfAnEarlierCamp() {
+        CampAshes x = new CampAshes();
+        Check.due("of nobody", x.spread(), 0);
+        gets(x);
+        x.image(0);
+        Check.campOf(x, "boy a 5;boy b 3;boy c 9;event e a joy 9;");
+        gets(x);
+        Check.due("of three", x.spread(), 4);
+        gets(x, 0, 3, 1);
+        x.image(1);
+        Check.campOf(x, "boy d 5;event e d joy 9;");
+        gets(x, 0, 3, 1);
+        Check.due("he has no others", x.spread(), -1);
+        gets(x, 0, 3, 1);
+        x.restore(0);
+        gets(x, 0, 3, 1);
+        Check.due("of nobody again", x.spread(), 0);
+        x.restore(1);
+        gets(x);
+        Check.campOf(x, "boy odd 0;");
+        gets(x);
     }
 
     private static void says() {

@@ -586,7 +586,7 @@ final class Model {
         for (int b = 0; b < world.boys.size(); b++) {
             much += Math.max(0, world.load(b) - world.bears.get(b));
         }
-        int[] gets = new int[7];
+        int[] gets = new int[world.boys.size()];
         int left = much;
         for (int b = 0; b < world.boys.size(); b++) {
             while (left > 0 && world.load(b) + gets[b] < world.bears.get(b)) {
@@ -602,7 +602,7 @@ final class Model {
     }
 
     int spreadOf(int b) {
-        return spreadOf == null || noBoy(b) ? -1 : spreadOf[b];
+        return spreadOf == null || b < 0 || b >= spreadOf.length ? -1 : spreadOf[b];
     }
 
     int says(int b, int n) {
