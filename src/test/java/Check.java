@@ -3,14 +3,20 @@ import java.util.NoSuchElementException;
 /** What the tests share: typing texts on the tape, and counting the answers that are not as due. */
 final class Check {
     private static int wrong = 0;
+    private static String words = "";
 
     private Check() {
+    }
+
+    /** The document's words that the checks behind this call are about; they stand ahead of what is not as due. */
+    static void of(String quoted) {
+        words = "'" + quoted + "': ";
     }
 
     static void due(String call, long got, long want) {
         if (got != want) {
             wrong++;
-            System.out.println(call + " answered " + got + ", due is " + want);
+            System.out.println(words + call + " answered " + got + ", due is " + want);
         }
     }
 
@@ -21,7 +27,7 @@ final class Check {
     static void due(String call, String got, String want) {
         if (!got.equals(want)) {
             wrong++;
-            System.out.println(call + " answered " + got + ", due is " + want);
+            System.out.println(words + call + " answered " + got + ", due is " + want);
         }
     }
 
@@ -98,6 +104,13 @@ final class Check {
             return false;
         } catch (NoSuchElementException e) {
             return true;
+        }
+    }
+
+    /** So many DAYS go, in strides that days() takes. */
+    static void pass(CampAshes x, int days) {
+        for (int left = days; left > 0; left -= 60) {
+            x.days(Math.min(60, left));
         }
     }
 
